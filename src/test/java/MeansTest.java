@@ -14,6 +14,8 @@ public final class MeansTest {
         partial();
         worth();
         rank();
+        rankGoesByOrders();
+        rankOfGroupsWithoutBackground();
         greatestNumbers();
         CHECKS.finish();
     }
@@ -183,7 +185,6 @@ public final class MeansTest {
 
     private static void drawn() {
         ExactShares2 x = ladder();
-        // Reference: what each order brings, from the orders drawn by hand below.
         for (int seed : new int[] {0, 1, 5, 99, -1, Integer.MIN_VALUE, Integer.MAX_VALUE}) {
             for (int orders : new int[] {1, 2, 3, 7, 20}) {
                 long[] sums = broughtByHand(seed, orders);
@@ -236,22 +237,11 @@ public final class MeansTest {
         x.group(0, 2);
         x.group(1, 1);
         x.group(2, 2);
-        // Groups 1 and 2 in a row; seed 5 draws 1, 0, 1 below 2: stays, changes, stays.
-        CHECKS.dueFraction("group 2", part -> x.drawn(0, 5, 3, part), twoGroups(5, 3, true), 1);
-        CHECKS.dueFraction("group 1", part -> x.drawn(1, 5, 3, part), twoGroups(5, 3, false), 1);
+        // Groups 1 and 2 in a row; seed 2 draws 0, 1, 1 below 2: they change once, and only then.
+        CHECKS.dueFraction("group 2", part -> x.drawn(0, 2, 3, part), 28, 1);
+        CHECKS.dueFraction("group 1", part -> x.drawn(1, 2, 3, part), 14, 1);
         x.group(1, 2);
         CHECKS.dueFraction("the only group", part -> x.drawn(1, 5, 20, part), 42, 1);
-    }
-
-    private static long twoGroups(int seed, int orders, boolean second) {
-        int z = seed;
-        int last = 0;
-        for (int time = 0; time < orders; time++) {
-            z = z * 1103515245 + 12345;
-            boolean stays = (z >>> 16) % 2 == 1;
-            last += stays == second ? 1 : 0;
-        }
-        return 42 * last / orders;
     }
 
     private static void partial() {
@@ -319,6 +309,32 @@ public final class MeansTest {
         x.group(1, 2);
         CHECKS.due("a group of 0", x.rank(1), 2);
         CHECKS.due("two groups", x.rank(2), -1);
+    }
+
+    private static void rankGoesByOrders() {
+        ExactShares2 x = new ExactShares2(4);
+        x.leaf(0);
+        x.leaf(24);
+        for (int column = 0; column < 3; column++) {
+            x.split(column, 0, 0, column + 1);
+        }
+        x.root(4);
+        x.weight(3, 7);
+        x.background();
+        for (int column = 0; column < 4; column++) {
+            x.item(-1, column, 1);
+        }
+        // Columns 0 to 2 have 8 each by orders, but 6 by sets; column 3 has 7 by both.
+        CHECKS.due("rank(0)", x.rank(0), 0);
+        CHECKS.due("rank(2)", x.rank(2), 2);
+        CHECKS.due("rank(3)", x.rank(3), 3);
+    }
+
+    private static void rankOfGroupsWithoutBackground() {
+        ExactShares2 x = new ExactShares2(3);
+        x.group(0, 1);
+        CHECKS.due("rank(1), two groups", x.rank(1), -3);
+        CHECKS.due("rank(2), two groups", x.rank(2), -1);
     }
 
     private static void greatestNumbers() {

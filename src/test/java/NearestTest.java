@@ -10,6 +10,8 @@ public final class NearestTest {
         lessAtTheFirstColumnThen();
         barredColumnsStay();
         columnsMixRows();
+        atTheEdgeOfASplit();
+        nodesThatCannotBothBeHad();
         noneAndNoColumn();
         CHECKS.finish();
     }
@@ -139,6 +141,44 @@ public final class NearestTest {
         CHECKS.due("nearest(265)", x.nearest(265), -3);
         dueRow("without the last", x, 260, 5, 50, 51, 52, 53, 54, 0);
         CHECKS.due("rows stay", x.answer(-1), 0);
+    }
+
+    private static void atTheEdgeOfASplit() {
+        ExactShares2 up = new ExactShares2(1);
+        up.leaf(0);
+        up.leaf(9);
+        up.split(0, 4, 0, 1);
+        up.root(2);
+        up.item(-1, 0, 4);
+        CHECKS.due("at AT, low", up.nearest(1), -3);
+        addRow(up, 5);
+        dueRow("above AT", up, 9, 1, 5);
+        ExactShares2 down = new ExactShares2(1);
+        down.leaf(9);
+        down.leaf(0);
+        down.split(0, 4, 0, 1);
+        down.root(2);
+        down.item(-1, 0, 6);
+        addRow(down, 5);
+        CHECKS.due("all above AT", down.nearest(1), -3);
+        addRow(down, 4);
+        dueRow("at AT", down, 9, 1, 4);
+        addRow(down, 3);
+        dueRow("below AT is farther", down, 9, 1, 4);
+    }
+
+    private static void nodesThatCannotBothBeHad() {
+        ExactShares2 x = weighted(10, -1);
+        x.leaf(0);
+        x.leaf(10);
+        x.split(1, 0, 1, 0);
+        x.split(1, 0, 0, 1);
+        x.root(2);
+        x.root(3);
+        addRow(x, 1, 5);
+        // Either root gives 10 for column 1, never both at once.
+        dueRow("one of the two", x, 20, 1, 1, 0);
+        CHECKS.due("both of the two", x.nearest(21), -3);
     }
 
     private static void noneAndNoColumn() {
