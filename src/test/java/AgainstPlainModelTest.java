@@ -5,8 +5,9 @@ import java.util.function.IntToLongFunction;
 /** Long runs of calls, right and wrong ones, with {@link PlainModel} answering beside the class. */
 public final class AgainstPlainModelTest {
     private static final Checks CHECKS = new Checks();
-    private static final int RUNS = 120;
-    private static final int CALLS = 512;
+    private static final int RUNS = 180;
+    // Behind 512 calls all answers are free; one turn makes nine calls at most.
+    private static final int CALLS = 512 - 9;
 
     private final Random random;
     private final ExactShares2 asked;
@@ -30,7 +31,8 @@ public final class AgainstPlainModelTest {
     public static void main(String[] args) {
         for (int run = 0; run < RUNS; run++) {
             AgainstPlainModelTest test = new AgainstPlainModelTest(run);
-            for (int call = 0; call < CALLS; call++) {
+            int before = CHECKS.asked();
+            while (CHECKS.asked() - before <= CALLS) {
                 test.call();
             }
         }

@@ -1,3 +1,4 @@
+import java.util.List;
 import java.util.function.IntToLongFunction;
 import java.util.function.LongSupplier;
 
@@ -5,6 +6,10 @@ import java.util.function.LongSupplier;
 final class Checks {
     private int wrong = 0;
     private int asked = 0;
+
+    int asked() {
+        return asked;
+    }
 
     void due(String call, long got, long want) {
         asked++;
@@ -35,6 +40,32 @@ final class Checks {
             return false;
         } catch (ArithmeticException e) {
             return true;
+        }
+    }
+
+    /** A fraction is told for both parts, no refusal and no throw. */
+    void dueTold(String call, IntToLongFunction part) {
+        for (int asked = 0; asked < 2; asked++) {
+            int which = asked;
+            boolean isTold = !throwsArithmetic(() -> part.applyAsLong(which))
+                    && part.applyAsLong(which) != ExactShares2.NOTHING;
+            due(call + " part " + which + " is told", isTold ? 1 : 0, 1);
+        }
+    }
+
+    /** Two portraits are the same; the first lines that are not are printed. */
+    void dueSame(String what, List<String> got, List<String> want) {
+        asked++;
+        if (got.equals(want)) {
+            return;
+        }
+        wrong++;
+        System.out.println(what + ": not the same portrait");
+        for (int line = 0; line < Math.min(got.size(), want.size()); line++) {
+            if (!got.get(line).equals(want.get(line))) {
+                System.out.println("  " + got.get(line) + ", due is " + want.get(line));
+                return;
+            }
         }
     }
 
