@@ -169,7 +169,7 @@ public final class LearnerBoundsTest {
         for (int call = 2; call < 511; call++) {
             x.item(0, 0, call % 201 - 100);
         }
-        // Call 510 left 510 - 402 - 100 there; the mean of the last call is of it.
+        // The last item is 510 % 201 - 100, that is 8.
         CHECKS.due("the 512th call", x.value(0, 0), 160);
     }
 
