@@ -53,14 +53,14 @@ final class Checks {
         }
     }
 
-    /** Two portraits are the same; the first lines that are not are printed. */
+    /** Two lists are the same; the first lines that are not are printed. */
     void dueSame(String what, List<String> got, List<String> want) {
         asked++;
         if (got.equals(want)) {
             return;
         }
         wrong++;
-        System.out.println(what + ": not the same portrait");
+        System.out.println(what + ": not the same");
         for (int line = 0; line < Math.min(got.size(), want.size()); line++) {
             if (!got.get(line).equals(want.get(line))) {
                 System.out.println("  " + got.get(line) + ", due is " + want.get(line));

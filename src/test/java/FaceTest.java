@@ -1,11 +1,18 @@
+import java.io.IOException;
 import java.lang.reflect.Constructor;
 import java.lang.reflect.Field;
 import java.lang.reflect.Member;
 import java.lang.reflect.Method;
 import java.lang.reflect.Modifier;
+import java.nio.file.Files;
+import java.nio.file.Path;
+import java.util.ArrayList;
 import java.util.Arrays;
+import java.util.List;
 import java.util.Set;
 import java.util.TreeSet;
+import java.util.regex.Matcher;
+import java.util.regex.Pattern;
 
 /** The public face is the document's, and nothing else of the class can be seen. */
 public final class FaceTest {
@@ -33,8 +40,23 @@ public final class FaceTest {
         "public long ExactShares2.nearestAt(int,int)",
     };
 
-    public static void main(String[] args) {
+    // What the interface says ahead of its calls, as the document tells it.
+    private static final String[][] SAID_AHEAD = {
+        {"---- the learner", "leaf", "split", "root", "weight", "clear"},
+        {"---- rows", "background", "item", "group", "answer"},
+        {"---- means", "value", "share", "both", "drawn", "partial", "worth", "rank"},
+        {"---- the nearest row", "bar", "nearest", "nearestAt"},
+    };
+
+    public static void main(String[] args) throws IOException {
         Checks checks = new Checks();
+        isTheDocuments(checks);
+        saysItsPartsAheadOfTheirCalls(checks);
+        keepsTheNamesOfItsCallsToItself(checks);
+        checks.finish();
+    }
+
+    private static void isTheDocuments(Checks checks) {
         int modifiers = ExactShares2.class.getModifiers();
         checks.due("public", Modifier.isPublic(modifiers) ? 1 : 0, 1);
         checks.due("final", Modifier.isFinal(modifiers) ? 1 : 0, 1);
@@ -55,7 +77,41 @@ public final class FaceTest {
             System.out.println("the face is " + got + ", due is " + want);
         }
         checks.due("the face is the document's", got.equals(want) ? 1 : 0, 1);
-        checks.finish();
+    }
+
+    private static void saysItsPartsAheadOfTheirCalls(Checks checks) throws IOException {
+        List<String> want = new ArrayList<>();
+        for (String[] part : SAID_AHEAD) {
+            want.addAll(Arrays.asList(part));
+        }
+        List<String> got = new ArrayList<>();
+        Pattern said = Pattern.compile("    // (---- .*)|    public (?:int|long) (\\w+)\\(.*");
+        for (String line : Files.readAllLines(Path.of("src/main/java/ExactShares2.java"))) {
+            Matcher found = said.matcher(line);
+            if (found.matches()) {
+                got.add(found.group(1) != null ? found.group(1) : found.group(2));
+            }
+        }
+        checks.dueSame("what is said ahead of the calls", got, want);
+    }
+
+    private static void keepsTheNamesOfItsCallsToItself(Checks checks) {
+        Set<String> names = new TreeSet<>();
+        for (Method method : ExactShares2.class.getDeclaredMethods()) {
+            if (Modifier.isPublic(method.getModifiers())) {
+                names.add(method.getName());
+            }
+        }
+        List<Class<?>> classes = new ArrayList<>();
+        classes.add(ExactShares2.class);
+        classes.addAll(Arrays.asList(ExactShares2.class.getDeclaredClasses()));
+        for (Class<?> owner : classes) {
+            for (Method method : owner.getDeclaredMethods()) {
+                boolean isHidden = !Modifier.isPublic(method.getModifiers());
+                boolean isTaken = isHidden && names.contains(method.getName());
+                checks.due(method + " bears the name of a call", isTaken ? 1 : 0, 0);
+            }
+        }
     }
 
     private static void note(Set<String> seen, Member member, String text) {
